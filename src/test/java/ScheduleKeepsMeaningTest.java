@@ -1,0 +1,107 @@
+import java.util.Random;
+
+/** Promise 6, on many programs: scheduled code does the same, and scheduling keeps all instructions. */
+final class ScheduleKeepsMeaningTest {
+    private static final Check CHECK = new Check();
+    private static final int PROGRAMS = 3000;
+
+    public static void main(String[] args) {
+        Random random = new Random(1);
+        int compared = 0;
+        for (int k = 0; k < PROGRAMS; k++) {
+            if (sameAfterScheduling(k, randomProgram(random), random)) {
+                compared++;
+            }
+        }
+        if (compared < PROGRAMS / 4) {
+            CHECK.tell("only " + compared + " programs came to their HALT");
+        }
+        CHECK.end();
+    }
+
+    private static int[][] randomProgram(Random random) {
+        int[][] rows = new int[24][];
+        for (int i = 0; i < 24; i++) {
+            boolean jumps = random.nextInt(8) == 0;
+            int op = jumps ? 17 + random.nextInt(3) : 1 + random.nextInt(16);
+            boolean memory = op >= 6 && op <= 9;
+            int a = memory && random.nextInt(4) != 0 ? 0 : random.nextInt(8);
+            // Jumps go onwards, so that most programs end.
+            int n = jumps ? i + 1 + random.nextInt(24 - i) : random.nextInt(memory ? 48 : 5);
+            rows[i] = Check.row(op, random.nextInt(8), a, random.nextInt(8), n);
+        }
+        rows[23] = Check.row(0, 0, 0, 0, 0);
+        return rows;
+    }
+
+    private static PipeComputer filled(int[][] rows, long seed) {
+        Random random = new Random(seed);
+        PipeComputer x = Check.with(rows);
+        for (int i = 0; i < 48; i++) {
+            x.cell(i, random.nextInt(9) - 2);
+        }
+        return x;
+    }
+
+    private static boolean sameAfterScheduling(int number, int[][] rows, Random random) {
+        long seed = random.nextLong();
+        PipeComputer plain = filled(rows, seed);
+        PipeComputer scheduled = filled(rows, seed);
+        int moved = scheduled.schedule();
+        dueSameInstructions("program " + number, plain, scheduled, moved);
+        plain.start(0);
+        scheduled.start(0);
+        int done;
+        try {
+            done = plain.run(300);
+        } catch (IndexOutOfBoundsException | ArithmeticException e) {
+            return false;
+        }
+        if (plain.count(1) == 0) {
+            return false;
+        }
+        CHECK.due("program " + number + ": run(300)", scheduled.run(300), done);
+        dueSameState("program " + number, plain, scheduled);
+        return true;
+    }
+
+    private static void dueSameInstructions(String what, PipeComputer plain, PipeComputer scheduled, int moved) {
+        int others = 0;
+        long sumBefore = 0;
+        long sumAfter = 0;
+        for (int i = 0; i < 24; i++) {
+            long before = text(plain, i).hashCode();
+            long after = text(scheduled, i).hashCode();
+            sumBefore += before;
+            sumAfter += after;
+            others += before == after ? 0 : 1;
+            if (plain.told(i, 0) == 0 || plain.told(i, 0) >= 17) {
+                CHECK.due(what + ": the end of a block stays at " + i, after, before);
+            }
+        }
+        CHECK.due(what + ": the instructions", sumAfter, sumBefore);
+        if (others > moved) {
+            CHECK.tell(what + ": schedule() answered " + moved + ", but " + others + " places differ");
+        }
+    }
+
+    private static String text(PipeComputer x, int i) {
+        StringBuilder text = new StringBuilder();
+        for (int what = 0; what < 5; what++) {
+            text.append(x.told(i, what)).append(' ');
+        }
+        return text.toString();
+    }
+
+    private static void dueSameState(String what, PipeComputer plain, PipeComputer scheduled) {
+        for (int r = 0; r < 8; r++) {
+            CHECK.due(what + ": whole(" + r + ")", scheduled.whole(r), plain.whole(r));
+        }
+        for (int r = 0; r < 4; r++) {
+            CHECK.dueFraction(what + ": fraction(" + r + ")", scheduled.fraction(r), plain.fraction(r));
+        }
+        for (int i = 0; i < 48; i++) {
+            CHECK.dueFraction(what + ": memory(" + i + ")", scheduled.memory(i), plain.memory(i));
+        }
+    }
+}
