@@ -80,12 +80,7 @@ public final class PipeComputer {
         refuseOutside(d, WHOLES - 1);
         refuseOutside(a, WHOLES - 1);
         refuseOutside(b, WHOLES - 1);
-        Instruction it = program[i];
-        it.op = op;
-        it.d = d;
-        it.a = a;
-        it.b = b;
-        it.n = n;
+        program[i].become(op, d, a, b, n);
     }
 
     public void cell(int i, double v) throws IllegalArgumentException {
@@ -206,7 +201,7 @@ public final class PipeComputer {
         if (it.goesToMemory()) {
             lineMissed = moveCell(it);
         } else if (it.hasTarget()) {
-            jumps = it.op == JUMP || (wholes[it.a] == wholes[it.b]) == (it.op == JUMP_IF_EQUAL);
+            jumps = jumpIsDue(it);
             wrong = it.op != JUMP && predictor.guessesWrong(at, jumps);
         } else if (it.op == HALT) {
             stopped = true;
@@ -217,6 +212,18 @@ public final class PipeComputer {
         done++;
         if (!stopped) {
             at = jumps ? it.target() : (at + 1) % PLACES;
+        }
+    }
+
+    private boolean jumpIsDue(Instruction it) {
+        boolean equal = wholes[it.a] == wholes[it.b];
+        switch (it.op) {
+            case JUMP_IF_EQUAL:
+                return equal;
+            case JUMP_IF_NOT:
+                return !equal;
+            default:
+                return true;
         }
     }
 
@@ -327,26 +334,28 @@ public final class PipeComputer {
         int a = 0;
         int b = 0;
         int n = 0;
+        int written = NONE;
+        int firstRead = NONE;
+        int secondRead = NONE;
 
-        int written() {
-            return register(WRITTEN_D[op], d);
-        }
-
-        int firstRead() {
-            return register(READ_A[op], a);
-        }
-
-        int secondRead() {
-            return register(READ_B[op], b);
+        void become(int newOp, int newD, int newA, int newB, int newN) {
+            op = newOp;
+            d = newD;
+            a = newA;
+            b = newB;
+            n = newN;
+            written = register(WRITTEN_D[op], d);
+            firstRead = register(READ_A[op], a);
+            secondRead = register(READ_B[op], b);
         }
 
         boolean readsWhatIsWrittenBy(Instruction other) {
-            int register = other.written();
-            return register != NONE && (firstRead() == register || secondRead() == register);
+            int register = other.written;
+            return register != NONE && (firstRead == register || secondRead == register);
         }
 
         boolean mustStayBehind(Instruction earlier) {
-            boolean bothWrite = written() != NONE && written() == earlier.written();
+            boolean bothWrite = written != NONE && written == earlier.written;
             return bothWrite
                     || readsWhatIsWrittenBy(earlier)
                     || earlier.readsWhatIsWrittenBy(this)
@@ -408,8 +417,8 @@ public final class PipeComputer {
             int latency = it.latency() + lineDelay;
             began = beginning(it, latency, groupMissed);
             afterWrongJump = wrongJump;
-            if (it.written() != NONE) {
-                ready[it.written()] = began + latency;
+            if (it.written != NONE) {
+                ready[it.written] = began + latency;
             }
             if (it.op == DIVIDE) {
                 dividerFree = began + DIVIDER_BUSY;
@@ -421,15 +430,15 @@ public final class PipeComputer {
 
         private int beginning(Instruction it, int latency, boolean groupMissed) {
             int time = began + 1 + (groupMissed ? GROUP_DELAY : 0) + (afterWrongJump ? WRONG_JUMP_DELAY : 0);
-            time = Math.max(time, readyTime(it.firstRead()));
-            time = Math.max(time, readyTime(it.secondRead()));
+            time = Math.max(time, readyTime(it.firstRead));
+            time = Math.max(time, readyTime(it.secondRead));
             if (it.op == DIVIDE) {
                 time = Math.max(time, dividerFree);
             }
             if (it.goesToMemory()) {
                 time = Math.max(time, memoryFree);
             }
-            return Math.max(time, readyTime(it.written()) - latency + 1);
+            return Math.max(time, readyTime(it.written) - latency + 1);
         }
 
         /** Where there is no register to wait for, 0 is early enough never to matter. */
@@ -446,7 +455,7 @@ public final class PipeComputer {
         private final int[] groups = new int[GROUPS_KEPT];
 
         CodeCache() {
-            Arrays.fill(groups, NONE);
+            empty();
         }
 
         void empty() {
@@ -477,7 +486,7 @@ public final class PipeComputer {
         private int uses = 0;
 
         DataCache() {
-            Arrays.fill(lines, NONE);
+            empty();
         }
 
         void empty() {
@@ -516,7 +525,7 @@ public final class PipeComputer {
         private final int[] counters = new int[COUNTERS];
 
         Predictor() {
-            Arrays.fill(counters, AT_FIRST);
+            reset();
         }
 
         void reset() {
@@ -538,14 +547,18 @@ public final class PipeComputer {
 
     /** Puts the instructions of each block in the order in which they wait least. */
     private static final class Scheduler {
+        private final Instruction[] old = new Instruction[PLACES];
         private final boolean[] leaders = new boolean[PLACES];
         private final int[] heights = new int[PLACES];
-        private final boolean[] placed = new boolean[PLACES];
-        private final Instruction[] old = new Instruction[PLACES];
+
+        /** For each place, the places that it must stay behind: a bit each, as there are but 24. */
+        private final int[] behind = new int[PLACES];
 
         /** Answers how many instructions are at another place than before. */
         int reorder(Instruction[] program) {
-            System.arraycopy(program, 0, old, 0, PLACES);
+            for (int i = 0; i < PLACES; i++) {
+                old[i] = program[i];
+            }
             findLeaders();
             int moved = 0;
             for (int from = 0; from < PLACES; from++) {
@@ -578,13 +591,14 @@ public final class PipeComputer {
 
         private int reorderBlock(Instruction[] program, int from, int end) {
             findHeights(from, end);
+            int left = 0;
             for (int i = from; i < end; i++) {
-                placed[i] = false;
+                left |= 1 << i;
             }
             int moved = 0;
             for (int place = from; place < end; place++) {
-                int next = nextToPlace(from, end);
-                placed[next] = true;
+                int next = nextToPlace(from, end, left);
+                left &= ~(1 << next);
                 program[place] = old[next];
                 if (next != place) {
                     moved++;
@@ -593,38 +607,31 @@ public final class PipeComputer {
             return moved;
         }
 
+        /** Goes from the last to the first, as a height is built on the heights of later ones. */
         private void findHeights(int from, int end) {
             for (int i = end - 1; i >= from; i--) {
                 heights[i] = 0;
+                behind[i] = 0;
                 for (int later = i + 1; later < end; later++) {
                     if (old[later].mustStayBehind(old[i])) {
                         int wait = old[later].readsWhatIsWrittenBy(old[i]) ? old[i].latency() : 1;
                         heights[i] = Math.max(heights[i], heights[later] + wait);
+                        behind[later] |= 1 << i;
                     }
                 }
             }
         }
 
-        /** The first one not yet placed always may be, so there is one to answer while any is left. */
-        private int nextToPlace(int from, int end) {
-            int best = from;
-            boolean found = false;
+        /** The first one left need stay behind none that is left, so there is always one to answer. */
+        private int nextToPlace(int from, int end, int left) {
+            int best = NONE;
             for (int i = from; i < end; i++) {
-                if (mayBePlaced(from, i) && (!found || heights[i] > heights[best])) {
+                boolean may = (left & 1 << i) != 0 && (left & behind[i]) == 0;
+                if (may && (best == NONE || heights[i] > heights[best])) {
                     best = i;
-                    found = true;
                 }
             }
-            return best;
-        }
-
-        private boolean mayBePlaced(int from, int i) {
-            for (int earlier = from; earlier < i; earlier++) {
-                if (!placed[earlier] && old[i].mustStayBehind(old[earlier])) {
-                    return false;
-                }
-            }
-            return !placed[i];
+            return best == NONE ? from : best;
         }
     }
 }

@@ -7,6 +7,8 @@ final class ClockTest {
         groupsTakeTurns();
         latencies();
         readsOfEveryOp();
+        readsOfDivision();
+        whatWritesNothing();
         divider();
         writesStayInOrder();
         memoryUnit();
@@ -88,6 +90,29 @@ final class ClockTest {
         }
     }
 
+    private static void readsOfDivision() {
+        for (int a = 1; a <= 2; a++) {
+            int b = 3 - a;
+            PipeComputer x = Check.startedWith(Check.row(1, 1, 0, 0, 1), Check.row(15, 2, 1, 0, 0),
+                    Check.row(6, 3, 0, 0, 0), Check.row(8, 1, 0, 0, 20), Check.row(13, 3, a, b, 0));
+            x.cell(20, 1.0);
+            // F1 is READY later than the group is there.
+            CHECK.dueTimes("F" + a + " / F" + b, x, 4, 5, 6, 12, 19);
+        }
+    }
+
+    private static void whatWritesNothing() {
+        int[] ops = {0, 7, 9, 17, 18, 19};
+        for (int op : ops) {
+            PipeComputer x = Check.startedWith(Check.row(op, 3, 0, 0, 1));
+            x.run(1);
+            for (int what = 10; what < 24; what++) {
+                boolean none = what == 18 || what == 19;
+                CHECK.due("op " + op + ": count(" + what + ")", x.count(what), none ? -2 : 0);
+            }
+        }
+    }
+
     private static boolean has(int[] ops, int op) {
         for (int one : ops) {
             if (one == op) {
@@ -146,11 +171,14 @@ final class ClockTest {
         for (int k = 0; k < cells.length; k++) {
             x.code(k, k % 2 == 0 ? 8 : 7, 0, 0, 0, cells[k]);
         }
-        x.start(0);
-        for (int k = 0; k < cells.length; k++) {
-            int before = x.count(5);
-            x.run(1);
-            CHECK.due(what + ": lines not found by number " + k, x.count(5) - before, missing.charAt(k) - '0');
+        // The second time shows that start leaves nothing of the first.
+        for (int time = 0; time < 2; time++) {
+            x.start(0);
+            for (int k = 0; k < cells.length; k++) {
+                int before = x.count(5);
+                x.run(1);
+                CHECK.due(what + ": lines not found by number " + k, x.count(5) - before, missing.charAt(k) - '0');
+            }
         }
     }
 

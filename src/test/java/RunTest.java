@@ -230,6 +230,11 @@ final class RunTest {
         CHECK.due("F1 is READY as before", x.count(21), 8);
         CHECK.dueFraction("CELL 8", x.memory(8), 7.0);
         CHECK.dueThrow("run(1)", IllegalStateException.class, () -> x.run(1));
+        PipeComputer z = Check.startedWith(Check.row(1, 1, 0, 0, 1000000000), Check.row(15, 1, 1, 0, 0),
+                Check.row(10, 2, 1, 1, 0));
+        CHECK.dueThrow("run(300)", ArithmeticException.class, () -> z.run(300));
+        CHECK.dueCounts("an outcome too great stops it", z, 2, 1, 2, 5, 1, 0, 0);
+        CHECK.dueFraction("F2 stays", z.fraction(2), 0.0);
         PipeComputer y = Check.startedWith(Check.row(6, 1, 0, 0, 48));
         CHECK.dueThrow("run(1)", IndexOutOfBoundsException.class, () -> y.run(1));
         CHECK.dueCounts("the first throws", y, 0, 1, 0, -1, 1, 0, 0);

@@ -16,7 +16,27 @@ final class ScheduleKeepsMeaningTest {
         if (compared < PROGRAMS / 4) {
             CHECK.tell("only " + compared + " programs came to their HALT");
         }
+        schedulesLikeNew(random);
         CHECK.end();
+    }
+
+    /** One object schedules program after program, each as a new object would. */
+    private static void schedulesLikeNew(Random random) {
+        for (int k = 0; k < 300; k++) {
+            PipeComputer used = new PipeComputer();
+            // With all that is told, more turns would go beyond 512 calls.
+            for (int turn = 0; turn < 3; turn++) {
+                int[][] rows = randomProgram(random);
+                PipeComputer fresh = Check.with(rows);
+                Check.put(used, 0, rows);
+                CHECK.due("schedule() number " + turn, used.schedule(), fresh.schedule());
+                for (int i = 0; i < 24; i++) {
+                    if (!text(used, i).equals(text(fresh, i))) {
+                        CHECK.tell("schedule() number " + turn + " put another instruction at " + i);
+                    }
+                }
+            }
+        }
     }
 
     private static int[][] randomProgram(Random random) {
