@@ -100,14 +100,15 @@ final class SchedulerTest {
         }
     }
 
-    /** A row of a tall height (by an own chain of 1s) is compared with one that is looked at. */
-    private static void dueHeight(String what, int height, int[] first, int[] waits) {
+    /** Finds a row's height: it goes before a chain of 1s that is lower, not before one as high. */
+    private static void dueHeight(String what, int height, int[] first, int[]... waits) {
         for (int chain = height - 1; chain <= height; chain++) {
             PipeComputer x = new PipeComputer();
             for (int k = 0; k <= chain; k++) {
                 x.code(k, 1, 7, 7, 0, k);
             }
-            Check.put(x, chain + 1, first, waits);
+            Check.put(x, chain + 1, first);
+            Check.put(x, chain + 2, waits);
             x.schedule();
             CHECK.dueCode(what + " against " + chain, x, 0, chain < height ? first : Check.row(1, 7, 7, 0, 0));
         }
@@ -132,6 +133,8 @@ final class SchedulerTest {
         dueHeight("written when read", 1, Check.row(14, 1, 2, 3, 0), Check.row(15, 2, 0, 0, 0));
         dueHeight("turns alone", 1, Check.row(13, 1, 0, 0, 0), Check.row(6, 3, 0, 0, 0));
         dueHeight("R0 isn't waited for", 1, Check.row(6, 0, 0, 0, 0), Check.row(6, 3, 0, 0, 0));
+        dueHeight("read, though another writes it in between", 8,
+                Check.row(13, 1, 0, 0, 0), Check.row(15, 1, 0, 0, 0), readsF1);
         dueHeight("read and written", 3, Check.row(15, 1, 0, 0, 0), Check.row(10, 1, 1, 0, 0));
     }
 
