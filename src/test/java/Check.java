@@ -19,6 +19,12 @@ final class Check {
         }
     }
 
+    void dueText(String when, String got, String want) {
+        if (!got.equals(want)) {
+            tell(when + ": there is " + got + ", due is " + want);
+        }
+    }
+
     void dueThrow(String call, Class<? extends RuntimeException> want, Call made) {
         Class<?> got = null;
         try {
@@ -70,6 +76,41 @@ final class Check {
             System.out.println(wrong + " answers are not as due");
             System.exit(1);
         }
+    }
+
+    /** All that the face tells but the code: some 80 calls. */
+    static String stateOf(PipeComputer x) {
+        StringBuilder text = new StringBuilder();
+        for (int what = 0; what < 24; what++) {
+            text.append(x.count(what)).append(' ');
+        }
+        for (int r = 0; r < 8; r++) {
+            text.append(x.whole(r)).append(' ');
+        }
+        for (int r = 0; r < 4; r++) {
+            text.append(x.fraction(r)).append(' ');
+        }
+        for (int i = 0; i < 48; i++) {
+            text.append(x.memory(i)).append(' ');
+        }
+        return text.toString();
+    }
+
+    /** All of the code: 120 calls. */
+    static String codeOf(PipeComputer x) {
+        StringBuilder text = new StringBuilder();
+        for (int i = 0; i < 24; i++) {
+            text.append(codeAt(x, i));
+        }
+        return text.toString();
+    }
+
+    static String codeAt(PipeComputer x, int i) {
+        StringBuilder text = new StringBuilder();
+        for (int what = 0; what < 5; what++) {
+            text.append(x.told(i, what)).append(' ');
+        }
+        return text.toString();
     }
 
     /** One row of code. */

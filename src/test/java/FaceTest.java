@@ -8,10 +8,12 @@ import java.util.TreeSet;
 /** The public face of the document, and nothing beside it (LANGUAGE.md, rules 1 and 5). */
 final class FaceTest {
     private static final Check CHECK = new Check();
+    private static final String BAD = " throws IllegalArgumentException";
     private static final String[] FACE = {
-        "void code(int, int, int, int, int, int)", "void cell(int, double)", "void start(int)", "int run(int)",
-        "int schedule()", "int whole(int)", "double fraction(int)", "double memory(int)", "int told(int, int)",
-        "int count(int)"};
+        "void code(int, int, int, int, int, int)" + BAD, "void cell(int, double)" + BAD, "void start(int)" + BAD,
+        "int run(int)" + BAD + " IllegalStateException IndexOutOfBoundsException ArithmeticException",
+        "int schedule()", "int whole(int)" + BAD, "double fraction(int)" + BAD, "double memory(int)" + BAD,
+        "int told(int, int)" + BAD, "int count(int)"};
 
     public static void main(String[] args) {
         Class<?> face = PipeComputer.class;
@@ -54,7 +56,13 @@ final class FaceTest {
 
     private static String describe(Method method) {
         String types = Arrays.toString(method.getParameterTypes());
-        return method.getReturnType() + " " + method.getName() + "(" + types.substring(1, types.length() - 1) + ")";
+        StringBuilder text = new StringBuilder(method.getReturnType() + " " + method.getName());
+        text.append("(").append(types, 1, types.length() - 1).append(")");
+        Class<?>[] thrown = method.getExceptionTypes();
+        for (int k = 0; k < thrown.length; k++) {
+            text.append(k == 0 ? " throws " : " ").append(thrown[k].getSimpleName());
+        }
+        return text.toString();
     }
 
     private static void constructorsOf(Class<?> face) {

@@ -1,20 +1,24 @@
 import java.util.Random;
 
-/** Promise 6, on many programs: scheduled code does the same, and scheduling keeps all instructions. */
+/**
+ * Promise 6, on many programs: scheduled code does the same, and scheduling keeps all instructions. Where
+ * something throws, the same is thrown, and memory is the same, as what can throw or store keeps its turn.
+ */
 final class ScheduleKeepsMeaningTest {
     private static final Check CHECK = new Check();
     private static final int PROGRAMS = 3000;
 
     public static void main(String[] args) {
         Random random = new Random(1);
-        int compared = 0;
+        int halted = 0;
+        int thrown = 0;
         for (int k = 0; k < PROGRAMS; k++) {
-            if (sameAfterScheduling(k, randomProgram(random), random)) {
-                compared++;
-            }
+            String end = sameAfterScheduling(k, randomProgram(random), random);
+            halted += end.equals("HALT") ? 1 : 0;
+            thrown += end.endsWith("Exception") ? 1 : 0;
         }
-        if (compared < PROGRAMS / 4) {
-            CHECK.tell("only " + compared + " programs came to their HALT");
+        if (halted < PROGRAMS / 4 || thrown < PROGRAMS / 20) {
+            CHECK.tell("only " + halted + " programs came to their HALT, " + thrown + " threw");
         }
         schedulesLikeNew(random);
         CHECK.end();
@@ -31,9 +35,7 @@ final class ScheduleKeepsMeaningTest {
                 Check.put(used, 0, rows);
                 CHECK.due("schedule() number " + turn, used.schedule(), fresh.schedule());
                 for (int i = 0; i < 24; i++) {
-                    if (!text(used, i).equals(text(fresh, i))) {
-                        CHECK.tell("schedule() number " + turn + " put another instruction at " + i);
-                    }
+                    CHECK.dueText("schedule() number " + turn, Check.codeAt(used, i), Check.codeAt(fresh, i));
                 }
             }
         }
@@ -46,8 +48,9 @@ final class ScheduleKeepsMeaningTest {
             int op = jumps ? 17 + random.nextInt(3) : 1 + random.nextInt(16);
             boolean memory = op >= 6 && op <= 9;
             int a = memory && random.nextInt(4) != 0 ? 0 : random.nextInt(8);
-            // Jumps go onwards, so that most programs end.
-            int n = jumps ? i + 1 + random.nextInt(24 - i) : random.nextInt(memory ? 48 : 5);
+            // Most jumps go onwards, so that most programs end.
+            int target = random.nextInt(5) == 0 ? random.nextInt(24) : i + 1 + random.nextInt(24 - i);
+            int n = jumps ? target : random.nextInt(memory ? 48 : 5);
             rows[i] = Check.row(op, random.nextInt(8), a, random.nextInt(8), n);
         }
         rows[23] = Check.row(0, 0, 0, 0, 0);
@@ -63,26 +66,34 @@ final class ScheduleKeepsMeaningTest {
         return x;
     }
 
-    private static boolean sameAfterScheduling(int number, int[][] rows, Random random) {
+    /** Answers how the program ended. */
+    private static String sameAfterScheduling(int number, int[][] rows, Random random) {
         long seed = random.nextLong();
         PipeComputer plain = filled(rows, seed);
         PipeComputer scheduled = filled(rows, seed);
         int moved = scheduled.schedule();
         dueSameInstructions("program " + number, plain, scheduled, moved);
-        plain.start(0);
-        scheduled.start(0);
-        int done;
+        String end = endOf(plain);
+        if (end.equals("no end")) {
+            return end;
+        }
+        CHECK.dueText("program " + number, endOf(scheduled), end);
+        if (end.equals("HALT")) {
+            CHECK.due("program " + number + ": count(2)", scheduled.count(2), plain.count(2));
+            dueSameRegisters("program " + number, plain, scheduled);
+        }
+        dueSameMemory("program " + number, plain, scheduled);
+        return end;
+    }
+
+    private static String endOf(PipeComputer x) {
+        x.start(0);
         try {
-            done = plain.run(300);
+            x.run(300);
         } catch (IndexOutOfBoundsException | ArithmeticException e) {
-            return false;
+            return e.getClass().getName();
         }
-        if (plain.count(1) == 0) {
-            return false;
-        }
-        CHECK.due("program " + number + ": run(300)", scheduled.run(300), done);
-        dueSameState("program " + number, plain, scheduled);
-        return true;
+        return x.count(1) == 1 ? "HALT" : "no end";
     }
 
     private static void dueSameInstructions(String what, PipeComputer plain, PipeComputer scheduled, int moved) {
@@ -90,8 +101,8 @@ final class ScheduleKeepsMeaningTest {
         long sumBefore = 0;
         long sumAfter = 0;
         for (int i = 0; i < 24; i++) {
-            long before = text(plain, i).hashCode();
-            long after = text(scheduled, i).hashCode();
+            long before = Check.codeAt(plain, i).hashCode();
+            long after = Check.codeAt(scheduled, i).hashCode();
             sumBefore += before;
             sumAfter += after;
             others += before == after ? 0 : 1;
@@ -105,21 +116,16 @@ final class ScheduleKeepsMeaningTest {
         }
     }
 
-    private static String text(PipeComputer x, int i) {
-        StringBuilder text = new StringBuilder();
-        for (int what = 0; what < 5; what++) {
-            text.append(x.told(i, what)).append(' ');
-        }
-        return text.toString();
-    }
-
-    private static void dueSameState(String what, PipeComputer plain, PipeComputer scheduled) {
+    private static void dueSameRegisters(String what, PipeComputer plain, PipeComputer scheduled) {
         for (int r = 0; r < 8; r++) {
             CHECK.due(what + ": whole(" + r + ")", scheduled.whole(r), plain.whole(r));
         }
         for (int r = 0; r < 4; r++) {
             CHECK.dueFraction(what + ": fraction(" + r + ")", scheduled.fraction(r), plain.fraction(r));
         }
+    }
+
+    private static void dueSameMemory(String what, PipeComputer plain, PipeComputer scheduled) {
         for (int i = 0; i < 48; i++) {
             CHECK.dueFraction(what + ": memory(" + i + ")", scheduled.memory(i), plain.memory(i));
         }

@@ -135,6 +135,10 @@ final class SchedulerTest {
         dueHeight("R0 isn't waited for", 1, Check.row(6, 0, 0, 0, 0), Check.row(6, 3, 0, 0, 0));
         dueHeight("read, though another writes it in between", 8,
                 Check.row(13, 1, 0, 0, 0), Check.row(15, 1, 0, 0, 0), readsF1);
+        int[] high = Check.row(15, 1, 1, 0, 0);
+        int[] low = Check.row(1, 3, 1, 0, 0);
+        dueHeight("the greatest comes first", 4, Check.row(1, 1, 0, 0, 0), high, readsF1, low);
+        dueHeight("the greatest comes last", 4, Check.row(1, 1, 0, 0, 0), low, high, readsF1);
         dueHeight("read and written", 3, Check.row(15, 1, 0, 0, 0), Check.row(10, 1, 1, 0, 0));
     }
 
