@@ -19,6 +19,7 @@ final class ScheduleEdgesTest {
         blocksAreApart();
         endReadsWhatMoves();
         targetsLead();
+        targetsFromEveryPlace();
         targetsByEveryJump();
         targetsModuloTwentyFour();
         numbersThatAreNoTargets();
@@ -27,6 +28,7 @@ final class ScheduleEdgesTest {
         stateStays();
         inTheMidst();
         again();
+        nothingIsLeftOfTheLast();
         CHECK.end();
     }
 
@@ -171,6 +173,19 @@ final class ScheduleEdgesTest {
         }
     }
 
+    /** A jump parts a BLOCK far before it and far behind it, from the first place to the last. */
+    private static void targetsFromEveryPlace() {
+        for (int place = 0; place < 24; place++) {
+            int from = place < 12 ? 20 : 4;
+            PipeComputer x = new PipeComputer();
+            Check.put(x, from, SHORT, LONG, WAITS);
+            x.code(place, 17, 0, 0, 0, from + 1);
+            CHECK.due("17 at " + place + " into the midst: schedule()", x.schedule(), 0);
+            x.code(place, 17, 0, 0, 0, from);
+            CHECK.due("17 at " + place + " to the first: schedule()", x.schedule(), 2);
+        }
+    }
+
     private static void targetsByEveryJump() {
         for (int op = 17; op <= 19; op++) {
             CHECK.due(op + " to 1: schedule()", movedWithTarget(9, op, 1), 0);
@@ -246,5 +261,20 @@ final class ScheduleEdgesTest {
         Check.put(x, 0, SHORT, LONG);
         CHECK.due("put in again: schedule()", x.schedule(), 2);
         CHECK.dueCode("put in again", x, 0, LONG, SHORT, WAITS, HALT);
+    }
+
+    /** What was found out of one code, who waits and how high it is, is nothing to the next. */
+    private static void nothingIsLeftOfTheLast() {
+        PipeComputer x = new PipeComputer();
+        for (int i = 0; i < 24; i++) {
+            x.code(i, 13, 1, 1, 1, i);
+        }
+        CHECK.due("each waits: schedule()", x.schedule(), 0);
+        Check.put(x, 0, SHORT, LONG, WAITS, HALT);
+        CHECK.due("one no longer waits: schedule()", x.schedule(), 2);
+        PipeComputer y = Check.with(HALT, HALT, LONG, WAITS);
+        CHECK.due("2 is high: schedule()", y.schedule(), 0);
+        Check.put(y, 0, SHORT, LONG, Check.row(1, 5, 0, 0, 0), HALT);
+        CHECK.due("2 is no longer high: schedule()", y.schedule(), 0);
     }
 }
