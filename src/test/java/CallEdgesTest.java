@@ -58,6 +58,7 @@ final class CallEdgesTest {
         }
     }
 
+    /** "All as at first", also where another object is in use. */
     private static void newSharesNothing() {
         PipeComputer used = Check.with(Check.row(1, 1, 0, 0, 1), Check.row(7, 0, 0, 1, 5));
         PipeComputer x = new PipeComputer();
@@ -90,6 +91,7 @@ final class CallEdgesTest {
         CHECK.dueCode("the one before stays", x, 19, Check.row(19, 4, 3, 6, 9));
     }
 
+    /** "Bad is .. a number out of range": "i (0 .. 23)". */
     private static void codeRefusesPlaces() {
         PipeComputer x = new PipeComputer();
         for (int i : OUTSIDE_CODE) {
@@ -100,6 +102,7 @@ final class CallEdgesTest {
         }
     }
 
+    /** "Bad is .. a number out of range": "op 0 .. 19". */
     private static void codeRefusesOps() {
         PipeComputer x = Check.with(Check.row(1, 2, 3, 4, 5));
         for (int op : new int[] {-1, 20, LEAST, GREATEST}) {
@@ -133,6 +136,7 @@ final class CallEdgesTest {
         }
     }
 
+    /** "INSTRUCTION i .. becomes this", and no more: it stays STOPPED, or goes on with what is there now. */
     private static void codeStartsNothing() {
         PipeComputer x = Check.startedWith(Check.row(1, 1, 0, 0, 1));
         x.run(2);
@@ -162,6 +166,7 @@ final class CallEdgesTest {
         CHECK.dueFraction("the last but two stays", x.memory(45), 0.0);
     }
 
+    /** "Bad is .. a number out of range": "CELL i (0 .. 47)". */
     private static void cellRefusesPlaces() {
         PipeComputer x = new PipeComputer();
         for (int i : OUTSIDE_MEMORY) {
@@ -173,6 +178,7 @@ final class CallEdgesTest {
         }
     }
 
+    /** "Bad is .. a number out of range": "v (-1000000.0 .. 1000000.0)". */
     private static void cellRefusesValues() {
         PipeComputer x = new PipeComputer();
         double[] outside = {Math.nextUp(1000000.0), Math.nextDown(-1000000.0), 1000001.0, -1000001.0,
@@ -195,6 +201,7 @@ final class CallEdgesTest {
         }
     }
 
+    /** "Bad is .. a number out of range": "INSTRUCTION i", of 0 .. 23. */
     private static void startRefusesPlaces() {
         PipeComputer x = Check.with(Check.row(1, 1, 0, 0, 6), Check.row(15, 1, 1, 0, 0));
         for (int i : OUTSIDE_CODE) {
@@ -212,6 +219,7 @@ final class CallEdgesTest {
         }
     }
 
+    /** "not STOPPED; registers are 0", whatever was before. */
     private static void startFromEveryState() {
         PipeComputer x = Check.with(Check.row(1, 1, 0, 0, 6), Check.row(15, 3, 1, 0, 0), Check.row(0, 0, 0, 0, 0),
                 Check.row(13, 0, 0, 0, 0), Check.row(6, 0, 0, 0, 48));
@@ -242,6 +250,7 @@ final class CallEdgesTest {
         }
     }
 
+    /** "registers are 0": nothing is said of CODE and CELLS, so they stay. */
     private static void startLeavesCodeAndCells() {
         PipeComputer x = Check.with(Check.row(1, 1, 0, 0, 6), Check.row(7, 0, 0, 1, 47));
         x.cell(0, 1.5);

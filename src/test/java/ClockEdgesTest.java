@@ -137,6 +137,7 @@ final class ClockEdgesTest {
         CHECK.dueTimes("13 and its reader", x, 4, 5, 8, 16);
     }
 
+    /** "when each register that it reads is READY". */
     private static void theLaterOfTwoCounts() {
         int[] sooner = Check.row(14, 1, 0, 0, 0);
         int[] later = Check.row(6, 2, 0, 0, 0);
@@ -146,6 +147,7 @@ final class ClockEdgesTest {
         }
     }
 
+    /** "each register that it reads": a HALT and a 19 read none, whatever their d, a and b. */
     private static void haltAndJumpWaitForNothing() {
         PipeComputer x = Check.startedWith(Check.row(6, 1, 0, 0, 0), Check.row(19, 1, 1, 1, 2), Check.row(0, 1, 1, 1, 1));
         CHECK.dueTimes("19 and HALT", x, 4, 5, 6);
@@ -168,6 +170,7 @@ final class ClockEdgesTest {
         CHECK.dueTimes("13 when it is long free", y, 4, 5, 8, 9, 14, 15, 16, 17, 22);
     }
 
+    /** "for 13: when the DIVIDER is free": for no other. */
     private static void dividerIsWaitedForByDivisionAlone() {
         for (int op : new int[] {0, 1, 2, 3, 4, 5, 6, 7, 8, 9, 10, 11, 12, 14, 15, 16, 17, 18, 19}) {
             PipeComputer x = withF0(Check.row(13, 1, 0, 0, 0), Check.row(op, 2, 0, 0, 0));
@@ -188,6 +191,7 @@ final class ClockEdgesTest {
         }
     }
 
+    /** "for 6 to 9: when MEMORY is free": for no other. */
     private static void memoryIsWaitedForByLoadsAndStoresAlone() {
         for (int op : new int[] {0, 1, 2, 3, 4, 5, 10, 11, 12, 14, 15, 16, 17, 18, 19}) {
             PipeComputer x = Check.startedWith(Check.row(7, 0, 0, 0, 0), Check.row(op, 2, 0, 0, 0));
@@ -212,6 +216,7 @@ final class ClockEdgesTest {
         }
     }
 
+    /** The same sentence, for an F. */
     private static void laterWritesOfFractions() {
         int[] divides = Check.row(13, 1, 0, 0, 0);
         int[][] next = {Check.row(8, 1, 0, 0, 0), Check.row(15, 5, 0, 0, 0), Check.row(10, 1, 0, 0, 0),

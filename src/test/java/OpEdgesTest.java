@@ -313,6 +313,7 @@ final class OpEdgesTest {
         }
     }
 
+    /** "Bad is .. a number out of range": "n INSTRUCTIONS (1 .. 300)". */
     private static void runRefusesNumbers() {
         PipeComputer x = Check.startedWith(Check.row(19, 0, 0, 0, 0));
         x.run(3);

@@ -47,6 +47,7 @@ final class ScheduleEdgesTest {
         return rows;
     }
 
+    /** "SCHEDULES all CODE": there may be nothing but HALT. */
     private static void emptyCode() {
         PipeComputer x = new PipeComputer();
         for (int time = 0; time < 2; time++) {
@@ -63,6 +64,7 @@ final class ScheduleEdgesTest {
         }
     }
 
+    /** "the one behind each 0 and 17 to 19" may have an end behind it at once. */
     private static void blocksOfOne() {
         for (int op : LEAVES) {
             int[][] rows = full(op);
@@ -114,6 +116,7 @@ final class ScheduleEdgesTest {
         dueNothing("24 stores", rows);
     }
 
+    /** "the one with the greatest HEIGHT, the first in the old order among these", of two. */
     private static void blockOfTwo() {
         dueNothing("two that wait", LONG, WAITS);
         dueNothing("two that don't", SHORT, LONG);
@@ -186,6 +189,7 @@ final class ScheduleEdgesTest {
         }
     }
 
+    /** "all TARGETS": of 17, 18 and 19 alike, and to themselves. */
     private static void targetsByEveryJump() {
         for (int op = 17; op <= 19; op++) {
             CHECK.due(op + " to 1: schedule()", movedWithTarget(9, op, 1), 0);
@@ -193,6 +197,7 @@ final class ScheduleEdgesTest {
         }
     }
 
+    /** "TARGETS are n modulo 24, from 0 on." */
     private static void targetsModuloTwentyFour() {
         for (int n : new int[] {1, 25, 49, -23, -47, 2147483641, -2147483639}) {
             CHECK.due("TARGET " + n + ": schedule()", movedWithTarget(23, 18, n), 0);
@@ -219,6 +224,7 @@ final class ScheduleEdgesTest {
         CHECK.due("two TARGETS in a row: schedule()", y.schedule(), 0);
     }
 
+    /** "(without it)": the end of a BLOCK stays where and what it is. */
     private static void jumpsStayAsTheyAre() {
         int[] jump = Check.row(18, 7, 6, 5, -24);
         PipeComputer x = Check.with(SHORT, LONG, WAITS, jump);

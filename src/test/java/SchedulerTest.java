@@ -47,6 +47,7 @@ final class SchedulerTest {
         dueOrder("the load and what waits for it first", rows, 2, 3, 0, 1, 4, 5);
     }
 
+    /** "the first in the old order among these." */
     private static void firstAmongEqual() {
         int[][] rows = {
             Check.row(1, 1, 0, 0, 1), Check.row(1, 2, 0, 0, 2), Check.row(15, 0, 1, 0, 0),
@@ -62,6 +63,7 @@ final class SchedulerTest {
         CHECK.dueCode(what, x, 0, stays ? first : second, stays ? second : waits, stays ? waits : first, waits);
     }
 
+    /** "if one writes a register that the other reads or writes .. or if both are of 6 to 13". */
     private static void mustStay() {
         int[] readsR3 = Check.row(16, 3, 0, 0, 0);
         dueStays("reads what was written", true, Check.row(1, 1, 0, 0, 1), Check.row(1, 3, 1, 0, 1), readsR3);
@@ -79,6 +81,7 @@ final class SchedulerTest {
         }
     }
 
+    /** "(R0 doesn't count)", and what is none of these: 5 and 14 are the ops next to 6 to 13. */
     private static void mayPass() {
         int[] readsR3 = Check.row(1, 3, 3, 0, 0);
         int[] readsF3 = Check.row(14, 6, 3, 3, 0);
@@ -114,6 +117,7 @@ final class SchedulerTest {
         }
     }
 
+    /** "of one that nothing must stay behind: 0; else the greatest, over those that must .." */
     private static void heights() {
         int[] readsR1 = Check.row(1, 2, 1, 0, 0);
         int[] readsF1 = Check.row(16, 2, 1, 0, 0);
@@ -179,6 +183,7 @@ final class SchedulerTest {
         CHECK.due("0 is another block: schedule()", y.schedule(), 0);
     }
 
+    /** "how many INSTRUCTIONS are at another place." */
     private static void placesNotTexts() {
         PipeComputer x = Check.with(SHORT, Check.row(1, 0, 0, 0, 9), Check.row(1, 0, 0, 0, 9), LONG, WAITS);
         // The two alike are at 2 and 3 afterwards: each is at another place.
